@@ -581,11 +581,10 @@ public final class LinkScript {
         return regionBase(region) + regionSize[region];
     }
 
-    // Load ranges never meet, so each section's image can be built in its
-    // place in ROM: zeroes, then the bytes, then the relocations over them.
+    // ROM is blank since construction, as link succeeds but once. Load ranges
+    // never meet, so each section's image can be built in its place in ROM:
+    // zeroes, then the bytes, then the relocations over them.
     private void writeRom() {
-        int romEnd = regionEnd(REGION_ROM);
-        fill(ROM_BASE, romEnd, BLANK);
         for (int k = 0; k < outCount; k++) {
             if (outLoaded[k] == 1) {
                 int end = loadEnd(k);

@@ -26,6 +26,8 @@ public final class Promise06LinkTest {
         relocationValues();
         imagesAndGaps();
         refusalLeavesEverything();
+        refusalLeavesNoCounter();
+        fullScript();
         Check.finish();
     }
 
@@ -477,5 +479,37 @@ public final class Promise06LinkTest {
         Check.due("linked: link", y.link(true), LinkScript.ERR_STATE);
         Feed.rom("a second link", y, 0, 16, 0, 0);
         Feed.out("a second link", y, 0, 0, 0, 17);
+    }
+
+    private static void refusalLeavesNoCounter() {
+        LinkScript x = new LinkScript(16, 16);
+        Feed.stmt(x, ADD, 5, 0);
+        Feed.stmt(x, ADD, 6, 1);
+        Feed.section(x, ROM, 1, KEEP, 0);
+        Feed.section(x, RAM, 0, INPUT, 1);
+        Feed.bytes(x, 1, 0, 1, 1);
+        Feed.bss(x, 1, 1, 20);
+        refused("RAM overflows", x, false, LinkScript.ERR_OVERFLOW);
+        Feed.link(x, true);
+        Feed.out("second link", x, 0, 5, 5, 1);
+        Feed.out("second link", x, 1, 262, 262, 0);
+        Feed.in("second link", x, 1, 6, 0, -1, -1, -1);
+        Feed.rom("second link", x, 4, 255, 1, 255);
+        Feed.info("second link", x, LinkScript.INFO_ROM_COUNTER, 6);
+        Feed.info("second link", x, LinkScript.INFO_RAM_COUNTER, 262);
+    }
+
+    private static void fullScript() {
+        LinkScript x = new LinkScript(128, 128);
+        Feed.open(x, ROM, 1);
+        for (int i = 2; i < LinkScript.MAX_STMTS; i++) {
+            Feed.stmt(x, INPUT, 1, 0);
+        }
+        Feed.end(x);
+        Feed.bytes(x, 1, 1, 1, 5);
+        Feed.bytes(x, 1, 2, 1, 6);
+        Feed.link(x, false);
+        Feed.in("32 statements", x, 0, 1, 1, 0, 0, 0);
+        Feed.in("32 statements", x, 1, -1, 0, -1, -1, -1);
     }
 }

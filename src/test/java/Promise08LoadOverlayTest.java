@@ -4,6 +4,7 @@ public final class Promise08LoadOverlayTest {
         onlyMembers();
         swaps();
         leavesTheRest();
+        fourGroups();
         Check.finish();
     }
 
@@ -62,5 +63,24 @@ public final class Promise08LoadOverlayTest {
         Feed.info("loaded", x, LinkScript.INFO_RAM_COUNTER, 273);
         Feed.out("loaded", x, 2, 260, 5, 4, 1, 1, 0, 0, 1, 260, 264);
         Feed.out("loaded", x, 3, 260, 10, 2, 1, 1, 0, 1, 2, 260, 264);
+    }
+
+    private static void fourGroups() {
+        LinkScript x = new LinkScript(32, 32);
+        for (int g = 0; g < LinkScript.MAX_GROUPS; g++) {
+            Feed.stmt(x, LinkScript.OP_OVERLAY, 0, 0);
+            Feed.open(x, 1, 1);
+            Feed.stmt(x, LinkScript.OP_KEEP, g, 0);
+            Feed.stmt(x, LinkScript.OP_DOT_ADD, 1, 0);
+            Feed.end(x);
+            Feed.stmt(x, LinkScript.OP_OVERLAY_END, 0, 0);
+            Feed.bytes(x, LinkScript.KIND_DATA, g, 1, 70 + g);
+        }
+        Feed.link(x, true);
+        Feed.start(x);
+        for (int k = 0; k < LinkScript.MAX_GROUPS; k++) {
+            load(x, k);
+            Overlays.ramIs("four groups", x, 70, 0, 71, 0, 72, 0, 73, 0);
+        }
     }
 }

@@ -15,6 +15,14 @@ final class Feed {
         stmt(x, LinkScript.OP_END, 0, 0);
     }
 
+    static void openGroup(LinkScript x) {
+        stmt(x, LinkScript.OP_OVERLAY, 0, 0);
+    }
+
+    static void endGroup(LinkScript x) {
+        stmt(x, LinkScript.OP_OVERLAY_END, 0, 0);
+    }
+
     /** An output section with one input statement for the id, of any kind. */
     static void section(LinkScript x, int region, int loaded, int op, int id) {
         open(x, region, loaded);
@@ -34,6 +42,15 @@ final class Feed {
     static int bss(LinkScript x, int id, int align, int size) {
         int s = x.beginSection(LinkScript.KIND_BSS, id, align, size);
         Check.due("beginSection is taken", s >= 0 ? 1 : 0, 1);
+        return s;
+    }
+
+    /** As many bytes as asked for in a new section, each the given value. */
+    static int filled(LinkScript x, int kind, int id, int align, int size, int value) {
+        int s = bytes(x, kind, id, align);
+        for (int i = 0; i < size; i++) {
+            Check.due("addByte(" + value + ")", x.addByte(value), LinkScript.OK);
+        }
         return s;
     }
 
@@ -62,6 +79,10 @@ final class Feed {
         LinkScript x = linked();
         start(x);
         return x;
+    }
+
+    static void load(LinkScript x, int k) {
+        Check.due("loadOverlay(" + k + ")", x.loadOverlay(k), LinkScript.OK);
     }
 
     static void rom(String when, LinkScript x, int from, int... values) {

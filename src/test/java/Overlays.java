@@ -66,7 +66,12 @@ final class Overlays {
     }
 
     static void residentsAre(String when, LinkScript x, int... residents) {
-        for (int k = 0; k < LinkScript.MAX_OUT; k++) {
+        residentsOf(when, x, LinkScript.MAX_OUT, residents);
+    }
+
+    /** Of so many output sections these are resident, and no other. */
+    static void residentsOf(String when, LinkScript x, int outs, int... residents) {
+        for (int k = 0; k < outs; k++) {
             int want = 0;
             for (int resident : residents) {
                 want = resident == k ? 1 : want;

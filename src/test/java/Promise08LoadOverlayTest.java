@@ -31,32 +31,28 @@ public final class Promise08LoadOverlayTest {
         Check.due("no sections: loadOverlay(0)", nothing.loadOverlay(0), LinkScript.ERR_ARG);
     }
 
-    private static void load(LinkScript x, int k) {
-        Check.due("loadOverlay(" + k + ")", x.loadOverlay(k), LinkScript.OK);
-    }
-
     private static void swaps() {
         LinkScript x = Overlays.started();
-        load(x, 3);
+        Feed.load(x, 3);
         Overlays.residentsAre("3", x, 3, 5, 7);
         Overlays.ramIs("3", x, 11, 12, 255, 255, 31, 32, 0, 0, 0, 0, 0, 51, 52, 0, 0, 0, 0);
-        load(x, 6);
+        Feed.load(x, 6);
         Overlays.residentsAre("6", x, 3, 6, 7);
         Overlays.ramIs("6", x, 11, 12, 255, 255, 31, 32, 0, 0, 0, 0, 0, 0, 0, 0, 0, 0, 0);
-        load(x, 3);
-        load(x, 7);
+        Feed.load(x, 3);
+        Feed.load(x, 7);
         Overlays.residentsAre("again", x, 3, 6, 7);
         Overlays.ramIs("again", x, 11, 12, 255, 255, 31, 32, 0, 0, 0, 0, 0, 0, 0, 0, 0, 0, 0);
-        load(x, 2);
-        load(x, 5);
+        Feed.load(x, 2);
+        Feed.load(x, 5);
         Overlays.residentsAre("back", x, 2, 5, 7);
         Overlays.ramIs("back", x, 11, 12, 255, 255, 21, 22, 23, 24, 0, 0, 0, 51, 52, 0, 0, 0, 0);
     }
 
     private static void leavesTheRest() {
         LinkScript x = Overlays.started();
-        load(x, 3);
-        load(x, 6);
+        Feed.load(x, 3);
+        Feed.load(x, 6);
         Overlays.romIs("loaded", x);
         Feed.info("loaded", x, LinkScript.INFO_PHASE, LinkScript.PHASE_STARTED);
         Feed.info("loaded", x, LinkScript.INFO_ROM_COUNTER, 14);
@@ -79,7 +75,7 @@ public final class Promise08LoadOverlayTest {
         Feed.link(x, true);
         Feed.start(x);
         for (int k = 0; k < LinkScript.MAX_GROUPS; k++) {
-            load(x, k);
+            Feed.load(x, k);
             Overlays.ramIs("four groups", x, 70, 0, 71, 0, 72, 0, 73, 0);
         }
     }

@@ -497,48 +497,13 @@ public final class Boundary06PlacementTest {
         counters("loaded", x, 8, 260);
     }
 
-    private static int end(LinkScript x, int k, int start) {
-        return x.outInfo(k, start) + x.outInfo(k, LinkScript.OUT_SIZE);
-    }
-
-    private static void apart(LinkScript x, int i, int j, int start) {
-        boolean apart = end(x, i, start) <= x.outInfo(j, start) || end(x, j, start) <= x.outInfo(i, start);
-        Check.due("field " + start + ": " + i + " and " + j + " are apart", apart ? 1 : 0, 1);
-    }
-
-    private static void within(LinkScript x, int k, int start, int low, int high) {
-        boolean within = x.outInfo(k, start) >= low && end(x, k, start) <= high;
-        Check.due("field " + start + ": " + k + " is within its region", within ? 1 : 0, 1);
-    }
-
-    private static void rangesAreDisjoint(LinkScript x) {
-        for (int i = 0; i < 8; i++) {
-            boolean inRom = x.outInfo(i, LinkScript.OUT_REGION) == ROM;
-            within(x, i, LinkScript.OUT_VMA, inRom ? 0 : 256, inRom ? 64 : 288);
-            if (x.outInfo(i, LinkScript.OUT_LOADED) == 1) {
-                within(x, i, LinkScript.OUT_LMA, 0, 64);
-            }
-            for (int j = 0; j < i; j++) {
-                int group = x.outInfo(i, LinkScript.OUT_GROUP);
-                boolean together = group >= 0 && group == x.outInfo(j, LinkScript.OUT_GROUP);
-                boolean oneRegion = inRom == (x.outInfo(j, LinkScript.OUT_REGION) == ROM);
-                if (oneRegion && !together) {
-                    apart(x, i, j, LinkScript.OUT_VMA);
-                }
-                if (x.outInfo(i, LinkScript.OUT_LOADED) == 1 && x.outInfo(j, LinkScript.OUT_LOADED) == 1) {
-                    apart(x, i, j, LinkScript.OUT_LMA);
-                }
-            }
-        }
-    }
-
     private static void rangesAreDisjointAndWithinTheirRegions() {
         LinkScript x = Overlays.linked();
-        rangesAreDisjoint(x);
+        Ranges.areApart("linked", x);
         Feed.start(x);
-        rangesAreDisjoint(x);
+        Ranges.areApart("started", x);
         Feed.load(x, 3);
         Feed.load(x, 6);
-        rangesAreDisjoint(x);
+        Ranges.areApart("loaded", x);
     }
 }

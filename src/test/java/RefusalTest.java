@@ -1,6 +1,5 @@
 import java.util.ArrayList;
 import java.util.List;
-import java.util.function.ToIntFunction;
 
 /**
  * "A refused call answers a negative ERR_ code and changes nothing." Beside a
@@ -12,9 +11,6 @@ public final class RefusalTest {
     private static final int[] EXTREMES = {Integer.MIN_VALUE, Integer.MAX_VALUE};
     // By code: how many tries were refused with it.
     private static final int[] REFUSED = new int[10];
-
-    private record Call(String name, ToIntFunction<LinkScript> call) {
-    }
 
     private final List<Call> run = new ArrayList<>();
     private final List<Integer> answers = new ArrayList<>();
@@ -45,7 +41,7 @@ public final class RefusalTest {
         LinkScript x = new LinkScript(64, 64);
         states.add(State.of(x));
         for (Call c : run) {
-            answers.add(c.call.applyAsInt(x));
+            answers.add(c.on(x));
             states.add(State.of(x));
         }
         Check.due("the run ends started", x.info(LinkScript.INFO_PHASE), LinkScript.PHASE_STARTED);
@@ -73,53 +69,47 @@ public final class RefusalTest {
     private void tryOne(int at, Call tried) {
         LinkScript x = new LinkScript(64, 64);
         for (int i = 0; i < at; i++) {
-            run.get(i).call.applyAsInt(x);
+            run.get(i).on(x);
         }
-        int answer = tried.call.applyAsInt(x);
+        int answer = tried.on(x);
         if (answer >= 0) {
             return;
         }
-        String when = tried.name + " refused before call " + at;
+        String when = tried + " refused before call " + at;
         Check.due(when + ": a code, " + answer, answer >= LinkScript.ERR_OVERFLOW ? 1 : 0, 1);
         REFUSED[-answer % REFUSED.length]++;
         states.get(at).isStill(when, x);
         for (int i = at; i < run.size(); i++) {
-            Check.due(when + ", then " + run.get(i).name, run.get(i).call.applyAsInt(x), answers.get(i));
+            Check.due(when + ", then " + run.get(i), run.get(i).on(x), answers.get(i));
         }
         states.get(run.size()).isStill(when + ", at the end", x);
     }
 
-    private static void add(List<Call> to, String name, ToIntFunction<LinkScript> call) {
-        to.add(new Call(name, call));
-    }
-
     private void stmt(int op, int a, int b) {
-        add(run, "script(" + op + ", " + a + ", " + b + ")", x -> x.script(op, a, b));
+        run.add(Call.script(op, a, b));
     }
 
     private void begin(int kind, int id, int align, int size) {
-        add(run, "beginSection(" + kind + ", " + id + ")", x -> x.beginSection(kind, id, align, size));
+        run.add(Call.beginSection(kind, id, align, size));
     }
 
     private void bytes(int count, int first) {
         for (int i = 0; i < count; i++) {
-            int value = first + i;
-            add(run, "addByte(" + value + ")", x -> x.addByte(value));
+            run.add(Call.addByte(first + i));
         }
     }
 
     private void reloc(int offset, int type, int target, int addend) {
-        add(run, "addReloc(" + offset + ", " + type + ", " + target + ")",
-                x -> x.addReloc(offset, type, target, addend));
+        run.add(Call.addReloc(offset, type, target, addend));
     }
 
     private void linkAndStart() {
-        add(run, "link(true)", x -> x.link(true));
-        add(run, "startup()", LinkScript::startup);
+        run.add(Call.link(true));
+        run.add(Call.startup());
     }
 
     private void load(int k) {
-        add(run, "loadOverlay(" + k + ")", x -> x.loadOverlay(k));
+        run.add(Call.loadOverlay(k));
     }
 
     private void addSmallRun() {
@@ -198,49 +188,38 @@ public final class RefusalTest {
         for (int op = -1; op <= 10; op++) {
             for (int a : as) {
                 for (int b : bs) {
-                    addTryOfScript(all, op, a, b);
+                    all.add(Call.script(op, a, b));
                 }
             }
         }
-        for (int extreme : EXTREMES) {
-            addTryOfScript(all, extreme, 0, 0);
-            addTryOfScript(all, LinkScript.OP_SECTION, extreme, 1);
-            addTryOfScript(all, LinkScript.OP_DOT_ALIGN, extreme, 1);
-        }
         addTriesOfFeeding(all);
         for (int k = -1; k <= 9; k++) {
-            addTryOfLoad(all, k);
+            all.add(Call.loadOverlay(k));
         }
-        addTryOfLoad(all, EXTREMES[0]);
-        addTryOfLoad(all, EXTREMES[1]);
-        add(all, "link(false)", x -> x.link(false));
-        add(all, "link(true)", x -> x.link(true));
-        add(all, "startup()", LinkScript::startup);
+        for (int extreme : EXTREMES) {
+            all.add(Call.script(extreme, 0, 0));
+            all.add(Call.script(LinkScript.OP_SECTION, extreme, 1));
+            all.add(Call.script(LinkScript.OP_DOT_ALIGN, extreme, 1));
+            all.add(Call.loadOverlay(extreme));
+        }
+        all.add(Call.link(false));
+        all.add(Call.link(true));
+        all.add(Call.startup());
         return all;
-    }
-
-    private static void addTryOfScript(List<Call> all, int op, int a, int b) {
-        add(all, "script(" + op + ", " + a + ", " + b + ")", x -> x.script(op, a, b));
-    }
-
-    private static void addTryOfLoad(List<Call> all, int k) {
-        add(all, "loadOverlay(" + k + ")", x -> x.loadOverlay(k));
     }
 
     private static void addTriesOfFeeding(List<Call> all) {
         int[][] begins = {{0, 0, 1, 0}, {4, 0, 1, 0}, {1, -1, 1, 0}, {2, 16, 1, 0}, {1, 0, 0, 0},
             {2, 0, 3, 0}, {3, 0, 32, 0}, {3, 0, 1, -1}, {3, 0, 1, 129}, {1, 0, 1, 0}, {3, 15, 16, 128}};
         for (int[] b : begins) {
-            add(all, "beginSection(" + b[0] + ", " + b[1] + ", " + b[2] + ", " + b[3] + ")",
-                    x -> x.beginSection(b[0], b[1], b[2], b[3]));
+            all.add(Call.beginSection(b[0], b[1], b[2], b[3]));
         }
         int[][] relocs = {{-1, 1, 0, 0}, {255, 1, 0, 0}, {0, 0, 0, 0}, {0, 4, 0, 0}, {0, 1, -1, 0},
             {0, 1, 16, 0}, {0, 1, 0, -257}, {0, 1, 0, 256}, {0, 1, 0, 0}, {1, 3, 15, 255}, {3, 2, 1, 1}};
         for (int[] r : relocs) {
-            add(all, "addReloc(" + r[0] + ", " + r[1] + ", " + r[2] + ", " + r[3] + ")",
-                    x -> x.addReloc(r[0], r[1], r[2], r[3]));
+            all.add(Call.addReloc(r[0], r[1], r[2], r[3]));
         }
-        add(all, "addByte(7)", x -> x.addByte(7));
-        add(all, "addByte(-1)", x -> x.addByte(-1));
+        all.add(Call.addByte(7));
+        all.add(Call.addByte(-1));
     }
 }

@@ -8,8 +8,9 @@ import java.util.function.Predicate;
  * The sentences that speak of more than one promise, looked at after each call
  * of many made-up runs: a refused call changes nothing and a taken one only
  * what is its to change, there is no way back, ranges stay apart, and memory
- * is the run image. The same calls go to a second object that no getter looks
- * at before the end, so a getter that changes something shows too.
+ * is the run image. The same calls go to an object that no getter looks at
+ * before the end, and the taken ones to an object that has no other calls, so
+ * what a getter or a refused call changes unseen shows later.
  */
 public final class EveryStateTest {
     private static final int RUNS = 1000;
@@ -22,6 +23,7 @@ public final class EveryStateTest {
     private final String name;
     private final LinkScript x;
     private final LinkScript unseen;
+    private final LinkScript unrefused;
     private State last;
 
     private EveryStateTest(int seed) {
@@ -31,6 +33,7 @@ public final class EveryStateTest {
         int ramSize = calls.regionSize();
         x = new LinkScript(romSize, ramSize);
         unseen = new LinkScript(romSize, ramSize);
+        unrefused = new LinkScript(romSize, ramSize);
         last = State.of(x);
     }
 
@@ -58,6 +61,7 @@ public final class EveryStateTest {
         make(Call.startup());
         makeAny(30);
         last.isStill(name + "the object that no getter looked at", unseen);
+        last.isStill(name + "the object without refused calls", unrefused);
     }
 
     private void feed(int steps) {
@@ -111,6 +115,7 @@ public final class EveryStateTest {
             last.isStill(when + " refused", x);
         } else {
             calls.taken(c);
+            Check.due(when + " of the object without refused calls", c.on(unrefused), answer);
             last.isStillBut(when + " taken", x, free(c));
             phaseFollows(when, c, phase);
         }

@@ -170,12 +170,15 @@ public final class RefusalTest {
             stmt(LinkScript.OP_KEEP, k, 0);
             stmt(LinkScript.OP_END, 0, 0);
         }
-        for (int s = 0; s < LinkScript.MAX_IN; s++) {
+        for (int s = 0; s < LinkScript.MAX_IN - 1; s++) {
             begin(LinkScript.KIND_DATA, s, 1, 0);
-            bytes(s < 8 ? 3 : s == 15 ? 225 : 1, 16 * s);
+            bytes(s < 8 ? 3 : s == 14 ? 222 : 1, 16 * s);
         }
+        // The last section is in ROM, so that a change of the last byte or relocation shows.
+        begin(LinkScript.KIND_DATA, 7, 1, 0);
+        bytes(4, 240);
         for (int r = 0; r < LinkScript.MAX_RELOCS; r++) {
-            reloc(r, LinkScript.R_ABS16, r % 8, r);
+            reloc(r % 2, LinkScript.R_ABS16, r % 8, r);
         }
         linkAndStart();
         load(3);
